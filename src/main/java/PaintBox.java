@@ -58,7 +58,8 @@ public final class PaintBox {
     // ---- tubes
 
     public int tube(int cost, int fading, int drops) {
-        if (!between(cost, 0, MOST_OF_A_ROW) || !between(fading, 0, MOST_OF_A_ROW) || !between(drops, 0, MOST_IN_TUBE)) {
+        if (!between(cost, 0, MOST_OF_A_ROW) || !between(fading, 0, MOST_OF_A_ROW)
+                || !between(drops, 0, MOST_IN_TUBE)) {
             return BAD;
         }
         return palette.isFull() ? FULL : palette.add(new Tube(cost, fading, drops));
@@ -346,7 +347,7 @@ public final class PaintBox {
     }
 
     public int glazed(int i) {
-        return glazing.any && between(i, 0, glazing.bestSize - 1) ? glazing.bestLayer(i) : BAD;
+        return between(i, 0, glazing.bestSize - 1) ? glazing.bestLayer(i) : BAD;
     }
 
     public int keep() {
@@ -542,7 +543,7 @@ public final class PaintBox {
         int held;
         int laid = 0;
         int lost = 0;
-        /** K of band b FADED by y YEARS stands at b * YEARS + y: pictures ask for it far more often than bands are told. */
+        /** K of band b FADED by y YEARS stands at b * YEARS + y: it is asked for far more often than told. */
         private final int[] drinks = new int[BANDS * YEARS];
         private final int[] scatters = new int[BANDS];
 
@@ -1019,7 +1020,7 @@ public final class PaintBox {
 
     /** GLAZES. */
     private static final class Glazing {
-        boolean any = false;
+        /** 0 before any search, too: so that none of its layers can be asked for. */
         int bestSize = 0;
         private int bestFar = 0;
         private final int[] best = new int[MOST_GLAZES];
@@ -1039,7 +1040,6 @@ public final class PaintBox {
                 }
             }
             Arrays.fill(sent[0], g);
-            any = true;
             bestSize = 0;
             bestFar = light.farFrom(goal, sent[0]);
             layOn(light, 0, set);

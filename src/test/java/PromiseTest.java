@@ -374,6 +374,14 @@ public final class PromiseTest {
         paint(y, 0, 999, 1);
         fill(y, 0, 0, 999);
         due("the most drops of the darkest", y.thick(0, 0), 6);
+        PaintBox full = box(12);
+        for (int t = 0; t < 12; t++) {
+            full.band(t, 0, 100 + 10 * t, 155);
+            full.press(t, 0, 1);
+        }
+        due("all twelve: 1860 and 1860", full.thick(0, 0), 2680);
+        full.lay(0, 0, 1);
+        due("and laid over 9000", full.back(0, 0, 0), 8777);
     }
 
     private static void seen() {
@@ -440,7 +448,12 @@ public final class PromiseTest {
         x.band(0, 7, 0, 100);
         due("the slowest band", x.hiding(0, 5000), 40);
         due("the slowest band", x.hiding(0, 2000), 160);
-        due("hides too late", x.hiding(0, 1664), NOT);
+        due("at the very last", x.hiding(0, 1671), 200);
+        due("hides too late", x.hiding(0, 1670), NOT);
+        x.band(0, 7, 1, 999);
+        x.band(0, 6, 0, 100);
+        due("one at the very last, one too late", x.hiding(0, 1671), NOT);
+        due("both", x.hiding(0, 1678), 200);
         paint(x, 0, 999, 1);
         due("black hides wholly", x.hiding(0, 0), 135);
         due("an empty pot", x.hiding(1, 10000), NOT);
@@ -628,6 +641,13 @@ public final class PromiseTest {
         due("no tubes", new PaintBox().match(0, 1, 1), BAD);
         atMostFour();
         PaintBox full = box(12);
+        for (int b = 0; b < 8; b++) {
+            full.lamp(0, b, 0);
+        }
+        full.tone(10000, 10000, 10000);
+        due("the farthest, in the dark", full.match(0, 4094, 8), 30000);
+        due("the least cost even so", full.price() * 10 + full.matched(1), 168);
+        full.tone(5000, 5000, 5000);
         due("all twelve", full.match(3, 4095, 8), 6960);
         due("and no thirteenth", full.match(3, 4096, 8), BAD);
     }
@@ -833,6 +853,25 @@ public final class PromiseTest {
         full.tone(2680, 2680, 2680);
         full.keep();
         due("and the first", full.fewest(2, 6, 0), 2049);
+        allOfThem();
+    }
+
+    /** Six tones, each just that of two tubes mixed: no tube can be spared. */
+    private static void allOfThem() {
+        PaintBox x = box(12);
+        for (int t = 0; t < 12; t++) {
+            for (int b = 0; b < 8; b++) {
+                x.band(t, b, (t * 83 + b * 131 + t * b * 37) % 1000, 1 + (t * 57 + b * 211 + t * t * 91) % 999);
+            }
+        }
+        for (int i = 0; i < 6; i++) {
+            x.press(2 * i, i, 1);
+            x.press(2 * i + 1, i, 1);
+            x.tone(x.seen(i, 0, 0), x.seen(i, 0, 1), x.seen(i, 0, 2));
+            x.keep();
+        }
+        due("all of them", x.fewest(0, 2, 0), 4095);
+        due("not with three drops", x.fewest(0, 3, 0), NOT);
     }
 
     private static void count() {
