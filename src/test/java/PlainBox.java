@@ -543,22 +543,37 @@ final class PlainBox {
         if (tones.isEmpty()) {
             return NOT;
         }
+        List<int[]> reaching = new ArrayList<>();
+        for (int[] mixture : mixtures((1 << tubes.size()) - 1, drops)) {
+            int[] sent = thickRow(mixture);
+            for (int i = 0; i < tones.size(); i++) {
+                if (apartOf(sent, lamp, tones.get(i)) <= d) {
+                    reaching.add(new int[] {usedBy(mixture), i});
+                }
+            }
+        }
         int best = NOT;
         for (int set = 1; set < 1 << tubes.size(); set++) {
-            if ((best == NOT || Integer.bitCount(set) < Integer.bitCount(best)) && reachesAll(lamp, set, drops, d)) {
+            if ((best == NOT || Integer.bitCount(set) < Integer.bitCount(best)) && reachesAll(set, reaching)) {
                 best = set;
             }
         }
         return best;
     }
 
-    private boolean reachesAll(int lamp, int set, int drops, int d) {
+    private static int usedBy(int[] mixture) {
+        int set = 0;
+        for (int t = 0; t < 12; t++) {
+            set += mixture[t] > 0 ? 1 << t : 0;
+        }
+        return set;
+    }
+
+    /** Each of the rows told is the set of tubes of a mixture, and a tone that it reaches. */
+    private boolean reachesAll(int set, List<int[]> reaching) {
         boolean[] reached = new boolean[tones.size()];
-        for (int[] mixture : mixtures(set, drops)) {
-            int[] sent = thickRow(mixture);
-            for (int i = 0; i < reached.length; i++) {
-                reached[i] |= apartOf(sent, lamp, tones.get(i)) <= d;
-            }
+        for (int[] r : reaching) {
+            reached[r[1]] |= (r[0] & ~set) == 0;
         }
         for (boolean r : reached) {
             if (!r) {

@@ -1,4 +1,3 @@
-import java.lang.reflect.Method;
 import java.util.Arrays;
 import java.util.Random;
 
@@ -42,8 +41,8 @@ public final class RandomRunsTest {
         for (int i = 0; i < 512; i++) {
             int call = draw(tubes, i);
             int[] a = arguments(call, tubes);
-            int want = answer(plain, NAMES[call], a);
-            int got = answer(box, NAMES[call], a);
+            int want = Face.ask(plain, NAMES[call], a);
+            int got = Face.ask(box, NAMES[call], a);
             tubes = plain.count(0);
             if (got != want || !alike(box, plain, NAMES[call], tubes)) {
                 wrong++;
@@ -159,20 +158,5 @@ public final class RandomRunsTest {
 
     private static int[] row(int... told) {
         return told;
-    }
-
-    /** Both boxes have each call once, under one name. */
-    private static int answer(Object box, String call, int[] arguments) {
-        Object[] boxed = Arrays.stream(arguments).boxed().toArray();
-        for (Method method : box.getClass().getDeclaredMethods()) {
-            if (method.getName().equals(call)) {
-                try {
-                    return (Integer) method.invoke(box, boxed);
-                } catch (ReflectiveOperationException e) {
-                    throw new IllegalStateException(call + Arrays.toString(arguments), e);
-                }
-            }
-        }
-        throw new IllegalStateException("no call " + call);
     }
 }
