@@ -22,12 +22,12 @@ public final class BoundsTest {
     private static final Sheet SHEET = new Sheet("BoundsTest");
 
     private final Scene scene;
-    private final String[] shown = new String[Scene.PARTS];
+    private final String[] shown = new String[Shown.PARTS];
 
     private BoundsTest(Scene scene) {
         this.scene = scene;
-        for (int part = 0; part < Scene.PARTS; part++) {
-            shown[part] = Scene.shown(scene.box(), part);
+        for (int part = 0; part < Shown.PARTS; part++) {
+            shown[part] = Shown.part(scene.box(), part);
         }
     }
 
@@ -123,6 +123,8 @@ public final class BoundsTest {
             SHEET.check(got == want, text + ", due is " + want);
             if (got < 0 || ASKING.contains(call)) {
                 traceless.add(told);
+            } else {
+                changeAlike(call, told);
             }
         }
         leaveNoTrace(call, traceless);
@@ -169,13 +171,24 @@ public final class BoundsTest {
         return all;
     }
 
+    private void changeAlike(String call, int[] told) {
+        for (int part = 0; part < Shown.PARTS; part++) {
+            PaintBox x = scene.box();
+            PlainBox plain = scene.plain();
+            Face.ask(x, call, told);
+            Face.ask(plain, call, told);
+            SHEET.check(Shown.part(x, part).equals(Shown.part(plain, part)), scene.name + ": " + call + Arrays.toString(told)
+                    + " did not change the box as is due, in part " + part);
+        }
+    }
+
     private void leaveNoTrace(String call, List<int[]> calls) {
-        for (int part = 0; part < Scene.PARTS; part++) {
+        for (int part = 0; part < Shown.PARTS; part++) {
             PaintBox x = scene.box();
             for (int[] told : calls) {
                 Face.ask(x, call, told);
             }
-            SHEET.check(Scene.shown(x, part).equals(shown[part]), scene.name + ": " + call
+            SHEET.check(Shown.part(x, part).equals(shown[part]), scene.name + ": " + call
                     + " changed what the box shows, in part " + part);
         }
     }

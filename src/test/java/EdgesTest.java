@@ -35,6 +35,7 @@ public final class EdgesTest {
         layersFade();
         missed();
         tones();
+        counts();
         SHEET.end();
     }
 
@@ -164,6 +165,9 @@ public final class EdgesTest {
                 "over 0 7 1 10000 = 10000", "over 0 7 200 10000 = 10000", "over 0 7 199 0 = 8322", "over 0 7 200 0 = 8329");
         run("a and s with the rest away: 0 and 249", "tube 0 0 9", "press 0 0 1", "paint 0 1 999", "over 0 0 1 0 = 249",
                 "over 0 0 200 0 = 8322", "over 0 0 200 9999 = 9999", "over 0 0 1 10000 = 10000");
+        run("the rest away, be it next to nothing or next to one", "tube 0 0 9", "press 0 0 1", "over 0 0 1 9748 = 9505", "band 0 0 1 999",
+                "over 0 0 1 7336 = 7354", "over 0 0 1 7919 = 7929", "over 0 0 1 9114 = 9116", "band 0 0 300 100", "over 0 0 1 9219 = 8877",
+                "over 0 0 1 9561 = 9207");
         run("what a LAYER would send back: nothing is laid by over", "tube 0 0 9", "press 0 0 1", "over 0 0 200 0 = 2686", "count 7 = 0",
                 "drops 0 0 = 1", "back 0 0 0 = 9000");
     }
@@ -177,6 +181,8 @@ public final class EdgesTest {
             run("in each BAND: band " + b + " is the last to hide", "tube 0 0 9", "press 0 0 1", "paint 0 999 1", "hiding 0 5 = 130",
                     "band 0 " + b + " 0 1", "hiding 0 1671 = 200", "hiding 0 1670 = NOT", "hiding 0 5 = NOT", "hiding 0 9749 = 2");
         }
+        run("one band at the very last, one too late", "tube 0 0 9", "press 0 0 1", "band 0 0 0 1", "hiding 0 1671 = 200", "band 0 7 1 999",
+                "hiding 0 1671 = NOT", "hiding 0 1678 = 200", "hiding 0 1677 = NOT");
         run("an empty pot is NOT even by 10000, a wrong d BAD even then", "tube 0 0 9", "hiding 0 10000 = NOT", "hiding 0 10001 = BAD",
                 "hiding 0 -1 = BAD", "press 0 0 1", "hiding 0 10001 = BAD", "hiding 0 -1 = BAD");
     }
@@ -214,6 +220,9 @@ public final class EdgesTest {
                 "lamp 3 2 99", "lamp 3 3 99", "lamp 3 4 99", "lamp 3 5 99", "lamp 3 6 99", "lamp 3 7 99", "eye 2 0 99", "eye 2 1 99",
                 "eye 2 2 99", "eye 2 3 99", "eye 2 4 99", "eye 2 5 99", "eye 2 6 99", "eye 2 7 99", "seen 0 3 2 = 10000",
                 "ground 0 10000", "look 0 3 2 = 10000");
+        run("one BAND for all SIGHTS", "tube 0 0 9", "paint 0 0 1", "band 0 4 100 100", "press 0 0 1", "lay 0 0 1", "ground 1 1", "dark 0",
+                "lamp 0 4 1", "eye 0 4 1", "eye 2 4 99", "look 0 0 0 = 8777", "look 0 0 1 = 8777", "look 0 0 2 = 8777", "look 1 0 0 = 1",
+                "look 1 0 2 = 1", "apart 1 0 = 14997", "apart 0 0 = 11331");
         run("an empty pot is NOT even in the dark", "dark 0", "seen 0 0 0 = NOT", "seen 0 4 0 = BAD", "seen 0 0 3 = BAD");
     }
 
@@ -308,6 +317,14 @@ public final class EdgesTest {
                 "look 0 0 0 = 7046", "apart 0 0 = 6138");
         run("each LAYER by its own years", "tube 0 999 9", "press 0 0 1", "lay 0 0 10", "years 1", "press 0 0 1", "lay 0 0 10",
                 "back 0 0 1 = 7059", "back 0 0 2 = 9040", "years 1", "look 0 0 0 = 9040");
+        run("from the GROUND up: what fades under a LAYER that stays", "tube 0 999 9", "tube 0 0 9", "press 0 0 1", "lay 0 0 10",
+                "press 1 0 1", "lay 0 0 10", "back 0 0 0 = 5634", "back 0 0 1 = 7059", "back 0 0 0 = 5634", "years 1",
+                "look 0 0 0 = 7059");
+        run("K 4, 3, 1, 0: a is 1, 0, 0, 0 and s is 249, 249, 249, 250", "tube 0 1 9", "paint 0 4 996", "ground 0 3000", "press 0 0 1",
+                "lay 0 0 200", "back 0 0 0 = 8300", "back 0 0 1 = 8427", "back 0 0 3 = 8427", "back 0 0 4 = 8432", "back 0 0 3 = 8427",
+                "back 0 0 0 = 8300", "back 0 0 99 = 8432", "back 0 0 0 = 8300");
+        run("a is 249 and s 1, then 0", "tube 0 0 9", "band 0 0 996 4", "press 0 0 1", "lay 0 0 20", "back 0 0 0 = 3279", "band 0 0 999 1",
+                "back 0 0 0 = 3276", "band 0 0 996 4", "back 0 0 0 = 3279");
         run("asked for a later year first", "tube 0 999 9", "press 0 0 1", "lay 0 0 10", "back 0 0 99 = 9020",
                 "back 0 0 0 = 7046", "back 0 7 0 = 7046", "back 0 7 99 = 9020");
     }
@@ -345,5 +362,23 @@ public final class EdgesTest {
                 "fewest 0 1 0 = 1", "keep = 2", "fewest 0 1 0 = NOT", "fewest 0 1 29999 = NOT", "fewest 0 1 30000 = 1");
         run("the tone at first can be kept", "keep = 1", "tube 0 0 0", "fewest 0 1 6960 = 1", "fewest 0 1 6959 = NOT");
         run("clear leaves the tone told", "tone 9000 9000 9000", "keep", "clear = 1", "apart 0 0 = 0");
+    }
+
+    private static void counts() {
+        run("how many: 0 .. 7", "count -1 = BAD", "count 8 = BAD", "count LOW = BAD", "count HIGH = BAD", "count 0 = 0", "count 7 = 0");
+        run("DROPS in all TUBES: twelve full ones", "12 times tube 0 0 9999", "count 6 = 119988", "tube 0 0 9999 = FULL", "count 6 = 119988");
+        run("DROPS lost: ten full POTS", "tube 0 0 9999", "fill 0 0 999", "fill 0 1 999", "fill 0 2 999", "fill 0 3 999", "fill 0 4 999",
+                "fill 0 5 999", "fill 0 6 999", "fill 0 7 999", "fill 0 8 999", "fill 0 9 999", "waste 0", "waste 1", "waste 2", "waste 3",
+                "waste 4", "waste 5", "waste 6", "waste 7", "waste 8", "waste 9 = 999", "count 5 = 9990", "ofTube 0 5 = 9990", "count 3 = 0",
+                "count 6 = 9");
+        String[] rows = {"tube 0 0 9999"};
+        for (int area = 0; area < 10; area++) {
+            for (int i = 1; i <= 10; i++) {
+                rows = Sheet.with(rows, "press 0 " + area + " 99", "lay " + area + " " + area + " 1 = " + i);
+            }
+        }
+        run("LAYERS on all AREAS: ten of ten; DROPS laid: 9900", Sheet.with(rows, "count 7 = 100", "count 4 = 9900", "ofTube 0 4 = 9900",
+                "count 6 = 99", "press 0 0 1", "lay 0 0 1 = FULL", "lay 0 4 1 = FULL", "lay 0 9 1 = FULL", "count 7 = 100", "count 4 = 9900",
+                "count 3 = 1", "back 9 7 0 = 7046"));
     }
 }

@@ -150,7 +150,7 @@ public final class RandomRunsTest {
             case "matched": return row(aTube(tubes));
             case "glaze": return row(upTo(3), tubes > 6 ? from1(63) : aSet(tubes), upTo(10000));
             case "glazed": return row(upTo(2));
-            case "fewest": return row(upTo(3), from1(tubes > 6 ? 2 : 6), random.nextInt(4) == 0 ? upTo(30000) : random.nextInt(15000));
+            case "fewest": return row(upTo(3), from1(tubes > 6 ? 4 : 6), random.nextInt(4) == 0 ? upTo(30000) : random.nextInt(15000));
             case "count": return row(upTo(7));
             default: return row();
         }

@@ -34,9 +34,6 @@ final class Scene {
 
     static final List<Scene> ALL = List.of(NEW, STUDIO, CRAMMED);
 
-    /** In so many parts Scene.shown tells all that a box shows: one box has not calls enough for the whole. */
-    static final int PARTS = 3;
-
     final String name;
     final int tubes;
     final int year;
@@ -81,82 +78,5 @@ final class Scene {
             calls += Sheet.spelledOut(row).size();
         }
         return calls;
-    }
-
-    /** Asks a box for a part of all that it shows. The box is used up by it. */
-    static String shown(PaintBox x, int part) {
-        StringBuilder answers = new StringBuilder();
-        switch (part) {
-            case 0: tellTubes(x, answers); break;
-            case 1: tellPotsAndAreas(x, answers); break;
-            default: tellLightAndTones(x, answers); break;
-        }
-        return answers.toString();
-    }
-
-    private static void tell(StringBuilder answers, int answer) {
-        answers.append(answer).append(' ');
-    }
-
-    private static void tellTubes(PaintBox x, StringBuilder answers) {
-        for (int what = 0; what < 8; what++) {
-            tell(answers, x.count(what));
-        }
-        tell(answers, x.price());
-        for (int i = 0; i < 4; i++) {
-            tell(answers, x.glazed(i));
-        }
-        for (int t = 0; t < x.count(0); t++) {
-            tell(answers, x.matched(t));
-            for (int what = 0; what < 6; what++) {
-                tell(answers, x.ofTube(t, what));
-            }
-            for (int b = 0; b < 8; b++) {
-                tell(answers, x.row(t, b, 0, 0));
-                tell(answers, x.row(t, b, 0, 1));
-            }
-        }
-    }
-
-    private static void tellPotsAndAreas(PaintBox x, StringBuilder answers) {
-        int tubes = x.count(0);
-        int year = x.count(1);
-        for (int i = 0; i < 10; i++) {
-            for (int t = -1; t < tubes; t++) {
-                tell(answers, x.drops(i, t));
-            }
-            for (int b = 0; b < 8; b++) {
-                tell(answers, x.back(i, b, year));
-            }
-            tell(answers, x.back(i, 6, 99));
-        }
-    }
-
-    /** The tone's numbers and the kept ones show in how far apart things are, for one sight alone at a time. */
-    private static void tellLightAndTones(PaintBox x, StringBuilder answers) {
-        for (int d = 1; d <= 30000; d *= 2) {
-            tell(answers, x.fewest(0, 1, d));
-        }
-        for (int i = 0; i < 4; i++) {
-            for (int b = 0; b < 8; b++) {
-                tell(answers, x.lamp(i, b, 10));
-            }
-        }
-        for (int i = 0; i < 10; i++) {
-            tell(answers, x.ground(i, 0));
-        }
-        for (int sight = 0; sight < 3; sight++) {
-            for (int b = 0; b < 8; b++) {
-                tell(answers, x.eye(sight, b, 0));
-            }
-        }
-        for (int sight = 0; sight < 3; sight++) {
-            x.eye(sight, 0, 1);
-            tell(answers, x.apart(5, 0));
-            x.ground(5, 10000);
-            tell(answers, x.apart(5, 0));
-            x.ground(5, 0);
-            x.eye(sight, 0, 0);
-        }
     }
 }

@@ -53,6 +53,14 @@ public final class TiesTest {
         run("COST comes after APART: the dearest if it is nearer by 1", "tube 999 0 0", "tube 0 0 0", "paint 0 8 5", "paint 1 9 8",
                 "tone 2249 2249 2249", "match 0 3 1 = 747", "matched 0 = 1", "price = 999", "tone 2250 2250 2250", "match 0 3 1 = 750",
                 "matched 1 = 1", "price = 0", "tone 2251 2251 2251", "match 0 3 1 = 747", "matched 1 = 1");
+        String[] three = {"tube 5 0 0", "tube 1 0 0", "dark 0", "lamp 0 7 1", "lamp 0 4 1", "lamp 0 0 1", "tone 2000 2500 3200", "band 0 7 9 8",
+            "band 0 4 9 8", "band 0 0 112 155"};
+        run("COST comes after APART by all SIGHTS: 500 by the first alone, and 500 more by the second", three, "band 1 7 9 8", "band 1 4 8 5",
+                "band 1 0 112 155", "match 0 3 1 = 500", "matched 0 = 1", "price = 5", "match 0 2 1 = 1000");
+        run("500 by the first two, and 700 more by the third", three, "band 1 7 8 5", "band 1 4 8 5", "band 1 0 9 8", "match 0 3 1 = 500",
+                "matched 0 = 1", "match 0 2 1 = 1200", "band 1 0 112 155", "match 0 3 1 = 500", "matched 1 = 1", "price = 1");
+        run("the farthest is a match, too", "tube 2 0 0", "tube 1 0 0", "dark 0", "tone 10000 10000 10000", "match 0 3 8 = 30000", "matched 0 = 0",
+                "matched 1 = 8", "price = 8", "match 0 1 1 = 30000", "matched 0 = 1", "price = 2");
         run("COST of the DROPS, not of the tubes: 8 times 0", "tube 1 0 0", "tube 0 0 0", "match 0 3 8 = 6960", "matched 0 = 0",
                 "matched 1 = 8", "price = 0");
         run("the largest COST", "12 times tube 999 0 0", "match 0 4095 8 = 6960", "matched 0 = 8", "price = 7992");
