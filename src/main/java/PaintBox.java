@@ -471,7 +471,7 @@ public final class PaintBox {
 
         /**
          * THICK. ROOT is found by Newton's steps from 10000 + q, which is above it: they fall until they
-         * are there, some ten at the most.
+         * are there, after fourteen at the most (q 0).
          */
         static int thickSent(int k, int s) {
             if (s <= 0) {
